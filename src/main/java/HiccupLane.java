@@ -1626,7 +1626,7 @@ public final class HiccupLane {
         void begin() {
             tokens = 0;
             int at = 0;
-            while (at < length) {
+            for (int i = 0; i < TAPE_LENGTH && at < length; i++) {
                 int sign = tape[at];
                 int end = at + 1;
                 if (isLetter(sign)) {
