@@ -1,0 +1,222 @@
+import java.lang.management.ManagementFactory;
+import java.lang.reflect.Constructor;
+import java.lang.reflect.Field;
+import java.lang.reflect.Method;
+import java.lang.reflect.Modifier;
+import java.nio.file.Files;
+import java.nio.file.Path;
+import java.util.ArrayList;
+import java.util.Arrays;
+import java.util.List;
+import java.util.Set;
+import java.util.TreeSet;
+import java.util.regex.Matcher;
+import java.util.regex.Pattern;
+
+/** The public face, the rules of LANGUAGE.md that can be seen from outside, wild arguments, and the room that calls take. */
+public final class RulesTest {
+    private static final String FACE = "state(int)int person(int)int set(int,int,int)boolean act(int,int,int)boolean "
+        + "minutes(int)int feed(int,int,int,int,int)int end(int)boolean text(int)int fault(int)int of(int,int)int "
+        + "book(int,int)int goes(int,int)int peace()int back(int)int breath(int)int held(int)int least(int,int)int "
+        + "heads(int,int)int said(int,int)int digit(int,int)int call(int,int,int)int calls(int)int hics(int,int,int)int "
+        + "way(int,int,int)int gossip(int,int,int)int term(int,int)int terms(int,int)int product(int)int "
+        + "tongues(int,int,int)int squares(int,int)int kin(int)int tree(int,int,int)int step(int)int "
+        + "stair(int,int,int)int heap(int)int game()int undo()boolean image(boolean)boolean look(int)int";
+
+    private static int wrong = 0;
+
+    private static void check(String what, boolean holds) {
+        if (!holds) {
+            wrong++;
+            System.out.println("does not hold: " + what);
+        }
+    }
+
+    public static void main(String[] args) throws Exception {
+        face();
+        source();
+        wildArguments();
+        room();
+        System.out.println(wrong == 0 ? "the rules are kept" : wrong + " rules are not kept");
+        if (wrong != 0) {
+            System.exit(1);
+        }
+    }
+
+    private static void face() {
+        Set<String> want = new TreeSet<>(Arrays.asList(FACE.split(" ")));
+        Set<String> got = new TreeSet<>();
+        Set<String> names = new TreeSet<>();
+        for (Method m : HiccupLane.class.getDeclaredMethods()) {
+            if (Modifier.isPublic(m.getModifiers())) {
+                StringBuilder b = new StringBuilder(m.getName()).append("(");
+                for (int i = 0; i < m.getParameterCount(); i++) {
+                    b.append(i == 0 ? "" : ",").append(m.getParameterTypes()[i].getName());
+                }
+                got.add(b.append(")").append(m.getReturnType().getName()).toString());
+                names.add(m.getName());
+            }
+        }
+        check("the face is the document's: " + got, got.equals(want));
+        for (Method m : HiccupLane.class.getDeclaredMethods()) {
+            int is = m.getModifiers();
+            check(m + " is public or private", Modifier.isPublic(is) || Modifier.isPrivate(is));
+            check(m + " bears no public name", Modifier.isPublic(is) || !names.contains(m.getName()));
+        }
+        for (Field f : HiccupLane.class.getDeclaredFields()) {
+            check(f + " is private", Modifier.isPrivate(f.getModifiers()) || f.getName().equals("NONE"));
+        }
+        Constructor<?>[] constructors = HiccupLane.class.getDeclaredConstructors();
+        check("one constructor", constructors.length == 1 && Modifier.isPublic(constructors[0].getModifiers()));
+        check("final", Modifier.isFinal(HiccupLane.class.getModifiers()));
+        Class<?>[] inside = HiccupLane.class.getDeclaredClasses();
+        check("twelve classes at most", inside.length <= 11);
+        for (Class<?> c : inside) {
+            check(c + " is static", Modifier.isStatic(c.getModifiers()));
+            int fields = 0;
+            for (Field f : c.getDeclaredFields()) {
+                fields += Modifier.isStatic(f.getModifiers()) ? 0 : 1;
+                check(f + " static is final", !Modifier.isStatic(f.getModifiers()) || Modifier.isFinal(f.getModifiers()));
+            }
+            check(c + " has twenty fields at most", fields <= 20);
+            for (Method m : c.getDeclaredMethods()) {
+                check(m + " takes seven at most", m.getParameterCount() <= 7);
+                check(m + " bears no public name", !names.contains(m.getName()));
+            }
+        }
+    }
+
+    private static void source() throws Exception {
+        String text = Files.readString(Path.of("src/main/java/HiccupLane.java"));
+        String bare = text.replaceAll("(?s)/\\*.*?\\*/", "").replaceAll("//[^\n]*", "").replaceAll("\"[^\"\n]*\"", "\"\"");
+        for (String word : new String[] {"throw", "throws", "try", "catch", "synchronized", "assert", "import", "package", "native", "volatile"}) {
+            check("no " + word, !Pattern.compile("\\b" + word + "\\b").matcher(bare).find());
+        }
+        for (String sign : new String[] {"->", "::", "@", "Exact", "\"\" +", "+ \"\""}) {
+            check("no " + sign, !bare.contains(sign));
+        }
+        check("plain signs alone", text.chars().allMatch(c -> c == '\n' || c >= 32 && c < 127));
+        Matcher library = Pattern.compile("\\b(Math|Integer|Long|System|Arrays|String|Character)\\.(\\w+)").matcher(bare);
+        List<String> allowed = List.of("Math.max", "Math.min", "Math.abs", "Integer.bitCount", "System.arraycopy");
+        while (library.find()) {
+            check("the library has " + library.group(), allowed.contains(library.group()));
+        }
+        String[] lines = text.split("\n");
+        int start = -1;
+        String indent = "";
+        for (int i = 0; i < lines.length; i++) {
+            Matcher m = Pattern.compile("^( {4}| {8})(?! )[^=;]*\\) \\{$").matcher(lines[i]);
+            if (m.find()) {
+                start = i;
+                indent = m.group(1);
+            } else if (start >= 0 && lines[i].equals(indent + "}")) {
+                check("sixty lines at most from line " + (start + 1), i - start <= 60);
+                start = -1;
+            }
+        }
+    }
+
+    private static final int[] WILD = {0, 1, -1, 2, 3, 5, 9, 10, 13, 14, 16, 20, 33, 60, 99, 100, -2, -10, -100, 999, 9999, 10000,
+        100000, Integer.MAX_VALUE, Integer.MIN_VALUE, Integer.MAX_VALUE - 1, Integer.MIN_VALUE + 1};
+
+    /** Every method with every mix of wild arguments, in an empty lane and in a full one: what the machine throws ends the test. */
+    private static void wildArguments() throws Exception {
+        for (Method m : HiccupLane.class.getDeclaredMethods()) {
+            if (!Modifier.isPublic(m.getModifiers()) || m.getParameterCount() > 3) {
+                continue;
+            }
+            for (int full = 0; full < 2; full++) {
+                HiccupLane x = full == 0 ? new HiccupLane() : fullLane();
+                int mixes = 1;
+                for (int i = 0; i < m.getParameterCount(); i++) {
+                    mixes *= WILD.length;
+                }
+                for (int mix = 0; mix < mixes; mix++) {
+                    Object[] arguments = new Object[m.getParameterCount()];
+                    int rest = mix;
+                    for (int i = 0; i < arguments.length; i++) {
+                        int v = WILD[rest % WILD.length];
+                        arguments[i] = m.getParameterTypes()[i] == boolean.class ? (Object) (v > 0) : (Object) v;
+                        rest /= WILD.length;
+                    }
+                    try {
+                        m.invoke(x, arguments);
+                    } catch (java.lang.reflect.InvocationTargetException e) {
+                        check(m.getName() + Arrays.toString(arguments) + " ends: " + e.getCause(), false);
+                    }
+                }
+            }
+        }
+    }
+
+    private static void tell(HiccupLane x, int k, String text) {
+        String padded = text + " ".repeat((20 - text.length() % 20) % 20);
+        for (int i = 0; i < padded.length(); i += 20) {
+            int[] c = new int[5];
+            for (int j = 0; j < 20; j++) {
+                c[j / 4] = c[j / 4] << 8 | padded.charAt(i + j);
+            }
+            x.feed(c[0], c[1], c[2], c[3], c[4]);
+        }
+        check("the full lane's text " + k, x.text(k) > 0);
+    }
+
+    private static HiccupLane fullLane() {
+        HiccupLane x = new HiccupLane();
+        for (int i = 0; i < 14; i++) {
+            x.person(i % 10);
+        }
+        tell(x, 0, "stops 1 when not (minute/7*7=minute and strong<5 or near>3);hics 3*named-tried;passes strong+found;");
+        tell(x, 1, "at 0 person 13 names 0;".repeat(16));
+        tell(x, 2, "at 0 glass 0 13;".repeat(16));
+        tell(x, 3, "person 0 says 13 12;".repeat(16));
+        for (int i = 0; i < 14; i++) {
+            x.act(0, (i + 1) % 14, i);
+        }
+        for (int i = 0; i < 16; i++) {
+            x.breath(i * 7 % 11 - 5);
+            x.call(i, i + 5, i + 1);
+            x.way(i % 6, (i + 1 + i % 4) % 6, i + 1);
+            x.term(i % 2, i % 9);
+            x.kin(i % 8);
+            x.step(i + 3);
+            x.heap(i % 16);
+        }
+        x.image(true);
+        x.minutes(60);
+        return x;
+    }
+
+    /** All rows stand from the beginning, so that no call makes anything. */
+    private static void room() {
+        com.sun.management.ThreadMXBean beans = (com.sun.management.ThreadMXBean) ManagementFactory.getThreadMXBean();
+        long thread = Thread.currentThread().getId();
+        for (int round = 0; round < 3; round++) {
+            HiccupLane x = fullLane();
+            long before = beans.getThreadAllocatedBytes(thread);
+            for (int i = 0; i < 60; i++) {
+                x.minutes(60);
+                x.goes(60, 0);
+                x.peace();
+                x.image(i % 2 == 0);
+                x.undo();
+                x.feed(1751737203, 540095027, 875903776, 538976288, 538976288);
+                x.text(i % 5);
+                x.tree(0, 1, 1);
+                x.stair(40, 6, 0);
+                x.calls(0);
+                x.gossip(0, 5, 0);
+                x.heads(99999, 1);
+                x.game();
+                x.of(3, 25);
+            }
+            long made = beans.getThreadAllocatedBytes(thread) - before;
+            check("calls make nothing (bytes made: " + made + ")", round < 2 || made < 4000);
+        }
+        long before = beans.getThreadAllocatedBytes(thread);
+        HiccupLane x = new HiccupLane();
+        long made = beans.getThreadAllocatedBytes(thread) - before;
+        check("a new object is small (bytes: " + made + ")", made < 40000 && x.look(0) == 0);
+        System.out.println("a new object takes " + made + " bytes");
+    }
+}
