@@ -475,6 +475,18 @@ public final class LaneTest {
         faulty(x, 0, "hicss 1;", 1, 0);
         faulty(x, 0, "hic 1;", 1, 0);
         faulty(x, 0, "hicsstops 1;", 1, 0);
+        for (char letter : "azAZ".toCharArray()) {
+            faulty(x, 0, "hics" + letter + " 1;", 1, 0);
+            faulty(x, 0, letter + "hics 1;", 1, 0);
+        }
+        for (char next : "@[`{".toCharArray()) {
+            faulty(x, 0, "hics" + next + " 1;", 1, 4);
+        }
+        for (char next : "/:".toCharArray()) {
+            faulty(x, 0, "hics 1" + next + ";", 1, next == '/' ? 7 : 6);
+            faulty(x, 0, "hics " + next + "1;", 1, 5);
+        }
+        fine(x, 0, "hics 0990+9009;", 1);
         faulty(x, 0, "hics 1 2;", 1, 7);
         faulty(x, 0, "hics -1;", 1, 5);
         faulty(x, 0, "hics (1);", 1, 5);

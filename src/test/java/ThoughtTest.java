@@ -586,6 +586,12 @@ public final class ThoughtTest {
             due("stair k", x.stair(5, 7, 0), -1);
             due("step(NONE)", x.step(-1), 0);
             due("stair without bad ones", x.stair(5, 2, 0), 8);
+            due("step(40)", x.step(40), 1);
+            due("stair to a bad one", x.stair(40, 1, 0), 0);
+            due("stair to a bad one", x.stair(40, 1, 1), -1);
+            due("step(NONE)", x.step(-1), 0);
+            due("stair to one no more bad", x.stair(40, 1, 0), 1);
+            due("stair to one no more bad", x.stair(40, 1, 1), 40);
         }
     }
 
