@@ -548,6 +548,8 @@ public final class LaneTest {
         faulty(x, 1, times("at0person0names1;", 16) + "person", 1, 272);
         due("the text stays", x.look(7), 16);
         faulty(x, 2, "at 0 person 0 names 1;", 1, 5);
+        faulty(x, 2, "at 0 names 0;", 1, 5);
+        faulty(x, 2, "at 0 says 0;", 1, 5);
         faulty(x, 2, "at 0 sugar;", 1, 10);
         faulty(x, 2, "at 0 sugar 3;", 2, 11);
         faulty(x, 2, "at 0 fright 0 1;", 1, 14);
@@ -890,6 +892,14 @@ public final class LaneTest {
             x.kin(-1);
             x.step(-1);
             x.heap(-1);
+            x.breath(9);
+            x.call(1, 9, 9);
+            x.way(1, 2, 9);
+            x.term(0, 9);
+            x.term(1, 9);
+            x.kin(2);
+            x.step(2);
+            x.heap(9);
             x.set(0, 0, 9);
             due("minutes", x.minutes(3) >= 0, true);
             faulty(x, 0, "hics", 1, 4);
