@@ -221,7 +221,11 @@ public final class KeepEdges extends Due {
         sentence("THE IMAGE: all that is and was told but the TAPE, fault() and what can be undone (nothing then), as it was when it was taken;");
         Trial x = new Trial().due("image 1", 1);
         changeAll(x, 0);
-        x.due("image 0", 1).due("look 0", 0).due("of 0 0", -2);
+        x.due("set 1 0 99", 1).due("goes 1 2", 4).due("image 0", 1);
+        for (int what = 0; what < 3; what++) {
+            x.due("goes 1 " + what, 0);
+        }
+        x.due("look 0", 0).due("of 0 0", -2);
         x.isAs("back to nobody", new Trial().due("image 1", 1));
     }
 
@@ -253,7 +257,13 @@ public final class KeepEdges extends Due {
         // And all of the full one.
         Trial y = Trial.full().due("image 1", 1);
         Trial asFull = y.again().due("image 0", 1);
-        for (String call : new String[] {"undo", "set 1 0 0", "set 0 13 0", "state 1", "breath -100", "call -1 0 0", "way -1 0 0", "term 0 -10",
+        for (int i = 0; i < 6; i++) {
+            y.due("undo", 1);
+        }
+        for (int i = 0; i < 40; i++) {
+            y.due("act 0 1 0", 1);
+        }
+        for (String call : new String[] {"set 1 0 0", "set 0 13 0", "state 1", "breath -100", "call -1 0 0", "way -1 0 0", "term 0 -10",
             "term 1 -10", "kin -1", "step -1", "heap -1"}) {
             y.ask(call);
         }

@@ -166,9 +166,8 @@ public final class LaneEdges extends Due {
         x.due("person 7", 2);
         isNew(x, 2, 7);
         // Another one had this number, and is there no more.
-        x.due("act 0 0 2", 1).due("act 3 2 0", 1).due("act 0 1 2", 1).due("act 3 2 0", 1).due("act 1 2 0", 1).due("act 0 2 0", 1);
-        x.due("act 3 0 0", 1).due("act 3 0 0", 1);
-        x.due("of 2 3", 0).due("of 2 4", 2).due("of 2 5", 1).due("of 2 6", 1);
+        x.due("act 0 2 0", 1).due("act 3 0 0", 1).due("act 3 0 0", 1).due("act 0 0 2", 1).due("act 0 1 2", 1).due("act 1 2 0", 1).due("act 3 2 0", 1);
+        x.due("of 2 1", 17).due("of 2 2", 1).due("of 2 3", 1).due("of 2 4", 2).due("of 2 5", 1).due("of 2 6", 1);
         x.due("image 0", 1).due("of 2 0", -2);
         x.due("person 8", 2);
         isNew(x, 2, 8);

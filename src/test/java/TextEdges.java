@@ -20,6 +20,9 @@ public final class TextEdges extends Due {
         rowsAtMost();
         lastLineForOne();
         toldTwice();
+        anotherText();
+        longestText();
+        eachTokenStands();
         lettersTogether();
         allSigns();
         digitsTogether();
@@ -84,6 +87,14 @@ public final class TextEdges extends Due {
         x.due("text 0", 1).due("of 0 7", 12);
         x.leaves("end 0", 1);
         x.leaves("end 1", 0);
+        // What stands behind goes on neither letters nor digits.
+        Trial y = Trial.lane(0);
+        y.feed(0, "hicsx 1;");
+        y.due("end 4", 1).due("text 0", -1).due("fault 0", 1).due("fault 1", 4);
+        y.feed(0, "hics 12345;");
+        y.due("end 6", 1).due("text 0", -1).due("fault 0", 1).due("fault 1", 6);
+        y.feed(0, "hics 12345;");
+        y.due("end 6", 1).due("feed 991961120 538976288 538976288 538976288 538976288", 26).due("text 0", 1).due("of 0 7", 1);
         Trial.full().leaves("end 401", 0);
         Trial.full().leaves("end 400", 1);
         Trial.full().due("end 0", 1).due("end 1", 0).due("feed 0 0 0 0 0", 20);
@@ -163,6 +174,11 @@ public final class TextEdges extends Due {
         // The 16th line is heard as well as the first.
         x.fine(0, "stops 1;".repeat(15) + "hics 8;", 16).due("of 0 7", 8);
         x.fine(3, "person0says1;".repeat(15) + "person1says0;", 16).due("of 1 20", 0);
+        Trial eight = Trial.lane(0, 0, 0, 0, 0, 0, 0, 0);
+        eight.fine(3, "person0says1;".repeat(15) + "person 7 says 6 5 4 3 2 1;", 16);
+        for (int i = 0; i < 7; i++) {
+            eight.due("of 7 " + (20 + i), 6 - i);
+        }
         x.fine(1, "", 0).fine(2, "at1sugar0;".repeat(15) + "at0sugar0;", 16).due("minutes 1", 0).due("of 0 0", 1);
         x.fine(1, "at9person0names1;".repeat(15) + "at1person1names0;", 16);
         x.due("minutes 1", 2).due("of 0 4", 1);
@@ -250,6 +266,81 @@ public final class TextEdges extends Due {
         x.due("person 0", 4).due("of 1 23", 4).due("of 1 24", -1);
     }
 
+    private static void anotherText() {
+        sentence("The TAPE, empty then (whatever k, with a FAULT too), is TEXT k:");
+        // Nothing of the text ahead stays, though it had more lines and more names.
+        Trial x = Trial.lane(0, 0, 0, 0, 0, 0, 0, 0);
+        x.fine(3, "person 0 says 7 6 5 4 3 2;person 1 says 7;", 2).fine(3, "person 0 says 3;", 1);
+        x.due("of 0 20", 3).due("of 0 21", 1).due("of 0 22", 2).due("of 1 20", 0).due("look 9", 1);
+        x.fine(0, "hics 5;stops 6;passes 7;", 3).fine(0, "stops 8;", 1).due("of 0 7", 20).due("of 0 8", 8).due("of 0 9", 0);
+        x.fine(1, "at 0 person 0 names 1;at 0 person 0 names 2;", 2).fine(1, "at 0 person 0 names 3;", 1);
+        x.fine(2, "at 0 sugar 1;at 0 sugar 2;", 2).fine(2, "at 0 sugar 3;", 1);
+        x.ask("minutes 1");
+        x.due("of 1 4", 0).due("of 2 4", 0).due("of 3 4", 1).due("of 1 0", 0).due("of 2 0", 0).due("of 3 0", 1);
+    }
+
+    private static void longestText() {
+        sentence("NONE, and nothing comes, if there would be more than 400.");
+        // A law of 400 bytes, told again and again: 98 times 1+3, and 5.
+        Trial x = Trial.lane(0, 0, 0, 0, 0, 0, 0, 0);
+        String law = "stops " + "1+3+".repeat(98) + "5;";
+        due("bytes", law.length(), 400);
+        for (int i = 0; i < 4; i++) {
+            x.fine(0, law, 1).due("of 0 8", 397);
+        }
+        x.faulty(0, law.substring(0, 399), 1, 399);
+        x.faulty(0, law.substring(0, 398), 1, 398);
+        Trial y = Trial.lane(0);
+        y.fine(0, "stops 3 when " + "1=2 or ".repeat(54) + "2*2=4;  ", 1).due("of 0 8", 3);
+        y.fine(0, "stops 3 when " + "1=1 and ".repeat(47) + "2*2=5;     ", 1).due("of 0 8", 50);
+        y.faulty(0, "a".repeat(400), 1, 0);
+        y.faulty(0, "1".repeat(400), 1, 0);
+        y.faulty(0, "hics" + "1".repeat(396), 1, 4);
+        y.faulty(0, ";".repeat(400), 1, 0);
+        y.faulty(0, "(".repeat(400), 1, 0);
+        y.faulty(0, "hics 1 when " + "(".repeat(388), 3, 20);
+    }
+
+    /** Each token of a line left out, or told twice: what stands there then can't. */
+    private static void eachTokenStands() {
+        sentence("1 what can't stand there");
+        tokens(0, "hics 1 when 1 = 1 ;", new int[] {0, 5, 7, 12, 14, 16, 18}, new int[] {5, 7, 12, 14, 16, 18, 20});
+        tokens(1, "at 0 person 1 names 0 ;", new int[] {0, 3, 5, 12, 14, 20, 22}, new int[] {3, 5, 12, 14, 20, 22, 24});
+        tokens(2, "at 0 fright 0 ;", new int[] {0, 3, 5, 12, 14}, new int[] {3, 5, 12, 14, 16});
+        tokens(2, "at 0 sugar 0 ;", new int[] {0, 3, 5, 11, 13}, new int[] {3, 5, 11, 13, 15});
+        // Of two numbers side by side the other one stands where one is left out.
+        tokens(2, "at 0 breath 3 5 ;", new int[] {0, 3, 5, 14, 14, 16}, new int[] {3, 5, 12, 16, 16, 18});
+        tokens(2, "at 0 glass 0 1 ;", new int[] {0, 3, 5, 13, 13, 15}, new int[] {3, 5, 11, ANOTHER, 15, 17});
+        tokens(3, "person 1 says 0 ;", new int[] {0, 7, 9, 14, 16}, new int[] {7, 9, 14, FINE, 18});
+    }
+
+    private static final int FINE = -1;
+    private static final int ANOTHER = -2;
+
+    private static void tokens(int k, String line, int[] leftOut, int[] twice) {
+        String[] tokens = line.split(" ");
+        for (int i = 0; i < tokens.length; i++) {
+            StringBuilder without = new StringBuilder();
+            StringBuilder with = new StringBuilder();
+            for (int j = 0; j < tokens.length; j++) {
+                without.append(j == i ? "" : tokens[j] + " ");
+                with.append(j == i ? tokens[j] + " " : "").append(tokens[j]).append(" ");
+            }
+            Trial x = Trial.lane(0, 0, 0, 0, 0, 0);
+            x.fine(k, line, 1);
+            faultyOrFine(x, k, without.toString(), leftOut[i]);
+            faultyOrFine(x, k, with.toString(), twice[i]);
+        }
+    }
+
+    private static void faultyOrFine(Trial x, int k, String text, int place) {
+        if (place == FINE) {
+            x.fine(k, text, 1);
+        } else if (place != ANOTHER) {
+            x.faulty(k, text, 1, place);
+        }
+    }
+
     private static void lettersTogether() {
         sentence("letters (a .. z, A .. Z) as many as stand together are KEYWORDS (those told here for that text) or none;");
         Trial x = Trial.lane(0, 0);
@@ -311,6 +402,9 @@ public final class TextEdges extends Due {
         x.faulty(0, "stops 99999;", 1, 6);
         x.faulty(0, "stops 12345678901234567890;", 1, 6);
         x.faulty(0, "stops 12 34;", 1, 9);
+        // Though the number is that of a ; or a + among signs.
+        x.faulty(0, "stops 1 00059", 1, 8);
+        x.faulty(0, "stops 1 00043 2;", 1, 8);
         // Signs ahead of 0 and behind 9 are no digits.
         x.faulty(0, "stops 1:;", 1, 7);
         x.faulty(0, "stops 1/;", 1, 8);
@@ -555,6 +649,12 @@ public final class TextEdges extends Due {
         isSo(x, "not (1=1 or 1=1)", false);
         isSo(x, "not not 1=1", true);
         isSo(x, "1=2 or 1=2 or 1=1", true);
+        isSo(x, "1=2 or 1=2", false);
+        isSo(x, "1=1 and 1=1", true);
+        x = Trial.lane(0, 0);
+        isSo(x, "1<2 and 2=2 and 2>1 and not 1=2 and not 1<1 and not 1>1", true);
+        isSo(x, "not 1=2 and 1=1", true);
+        isSo(x, "1=1 and not (1=1 and not 1=2)", false);
         isSo(x, "1=1 and 1=1 and 1=2", false);
         x = Trial.lane(0, 0);
         int[][] pairs = {{1, 2}, {2, 2}, {2, 1}};

@@ -33,6 +33,7 @@ public final class ThoughtEdges extends Due {
         kinTold();
         treeRefused();
         treeOfNone();
+        leastLeftIsJoined();
         stepsTold();
         stairRefused();
         stairOfNone();
@@ -461,6 +462,9 @@ public final class ThoughtEdges extends Due {
         x.due("tongues 2 0 2", 3).due("tongues 3 0 2", 2).due("tongues 4 0 2", 3).due("tongues 6 0 2", 5).due("tongues 11 0 2", 10);
         x.due("tongues 14 0 2", 6).due("tongues 19 0 2", -1).due("tongues 19 16 1", 0).due("tongues 10 0 2", 3);
         x.due("tongues 39 12 1", 1).due("tongues 39 0 2", 12).due("tongues 47 0 2", -1).due("tongues 79 0 2", -1).due("tongues 34 0 2", 4);
+        x.due("tongues 176 0 2", 15).due("tongues 102 0 2", 16).due("tongues 9826 0 2", 16).due("tongues 102 16 1", 1);
+        // Of seventeen they would.
+        x.due("tongues 198 0 2", -1).due("tongues 9810 0 2", -1);
         x.due("tongues 10 3 1", 1).due("tongues 10 2 1", 0).due("tongues 12 2 1", 0).due("tongues 12 0 2", 5);
     }
 
@@ -542,6 +546,19 @@ public final class ThoughtEdges extends Due {
         kin(2).due("tree 2 0 0", 2).due("tree 0 1 1", 2);
     }
 
+    private static void leastLeftIsJoined() {
+        sentence("the least one left that is not in the row is joined to the first one of the row; it is left no more, and that first one is taken"
+            + " off the row; again, till the row is empty; then the two left are joined:");
+        // 0 to 1, 2 to 1, and 1 and 3 are left.
+        kin(1, 1).due("tree 1 0 0", 3).due("tree 3 0 0", 1).due("tree 0 2 1", 2).due("tree 2 3 1", 2);
+        // 1 to 0, then 0, who is in the row no more, to 2; 2 and 3 are left.
+        kin(0, 2).due("tree 0 0 0", 2).due("tree 2 0 0", 2).due("tree 1 3 1", 3);
+        // 0 to 3, 1 to 3, 3 to 2; 2 and 4 are left.
+        kin(3, 3, 2).due("tree 3 0 0", 3).due("tree 2 0 0", 2).due("tree 0 4 1", 3).due("tree 0 1 1", 2);
+        // 1 to 4, 2 to 0, 0 to 4, 3 to 4; 4 and 5 are left.
+        kin(4, 0, 4, 4).due("tree 4 0 0", 4).due("tree 0 0 0", 2).due("tree 2 5 1", 3).due("tree 2 1 1", 3).due("tree 3 5 1", 2);
+    }
+
     private static void stepsTold() {
         sentence("A bad step for STAIR (NONE: none is then): how many; NONE if one can't be, or there are eight.");
         row("step ", -1, 8, -1, new int[] {1, 40, 2, 39}, new int[] {0, 41, -2, LEAST, MOST});
@@ -576,6 +593,9 @@ public final class ThoughtEdges extends Due {
         x.due("step 6", 2).due("stair 7 2 0", 0).due("stair 7 2 1", -1).due("stair 7 3 0", 7).due("stair 7 3 1", 3);
         // Told twice is told.
         x.due("step 5", 3).due("stair 4 2 0", 5).due("stair 7 3 0", 7);
+        // By how few is asked first of an object, behind bad ones that are none then, too.
+        new Trial().due("step 5", 1).due("stair 5 2 1", -1).due("step -1", 0).due("stair 5 2 1", 3).due("step 4", 1).due("stair 5 2 1", 3).due("stair 5 1 1", -1);
+        new Trial().due("stair 5 2 0", 8).due("step 5", 1).due("stair 5 2 0", 0).due("step -1", 0).due("stair 5 2 0", 8);
         // Six in a row can't be passed by six at a going, five can.
         Trial y = new Trial();
         for (int i = 1; i <= 5; i++) {
