@@ -248,7 +248,8 @@ public final class KeepEdges extends Due {
     private static void allThatIsAndWasTold() {
         sentence("THE IMAGE: all that is and was told but the TAPE,");
         Trial x = Trial.rich().due("image 1", 1);
-        Trial as = x.again().due("image 0", 1);
+        // One where nothing was gone back to, but with nothing to undo, too.
+        Trial as = x.again().due("state 777", 777);
         changeAll(x, 5);
         x.due("image 0", 1);
         x.faulty(0, "hics", 1, 4);
@@ -256,7 +257,7 @@ public final class KeepEdges extends Due {
         x.isAs("gone back", as);
         // And all of the full one.
         Trial y = Trial.full().due("image 1", 1);
-        Trial asFull = y.again().due("image 0", 1);
+        Trial asFull = y.again().due("state 0", 0);
         for (int i = 0; i < 6; i++) {
             y.due("undo", 1);
         }
@@ -309,7 +310,7 @@ public final class KeepEdges extends Due {
         Trial x = Trial.lane(0, 0).fine(0, "stops 0;hics 44;", 2);
         x.due("breath 1", 1).due("call 0 9 9", 1).due("way 0 1 9", 1).due("term 0 1", 1).due("term 1 1", 1).due("kin 0", 1).due("step 2", 1).due("heap 3", 1);
         x.due("act 0 0 1", 1).due("image 1", 1);
-        Trial as = x.again().due("image 0", 1);
+        Trial as = x.again().due("state 0", 0);
         for (int round = 1; round <= 3; round++) {
             changeAll(x, 2);
             x.due("image 0", 1).due("look 0", 2).due("look 4", 1).due("look 3", 0).due("look 10", 0);

@@ -120,6 +120,15 @@ public final class LaneEdges extends Due {
         }
         x.leaves("person 5", -1);
         x.due("look 0", 14).due("of 13 0", 5).due("of 14 0", -2);
+        // What can be undone stays as well.
+        x.due("act 0 0 1", 1).due("act 0 0 1", 1);
+        x.leaves("person 5", -1);
+        // However long the book is, there is place for the fourteenth.
+        Trial y = Trial.lane(0, 0, 0, 0, 0, 0, 0, 0, 0, 0, 0, 0);
+        for (int i = 0; i < 20; i++) {
+            y.due("act 0 0 1", 1);
+        }
+        y.due("person 5", 12).due("person 5", 13).due("person 5", -1);
         Trial.full().leaves("person 0", -1);
     }
 

@@ -254,8 +254,9 @@ public final class TextEdges extends Due {
         sentence("of several lines for one the last: in this order he says names,");
         Trial x = Trial.lane(0, 0, 0, 0);
         x.fine(3, "person 0 says 3 2;person 1 says 2;person 0 says 2;person 2 says 3;", 4);
-        x.due("of 0 20", 2).due("of 0 21", 1).due("of 0 22", 3).due("of 0 23", -1);
+        x.due("of 0 20", 2).due("of 0 21", 1).due("of 0 22", 3).due("of 0 23", -1).due("of 0 10", 2);
         x.due("of 1 20", 2).due("of 2 20", 3).due("of 3 20", 0);
+        x.due("set 1 0 9", 1).due("act 3 0 0", 1).due("of 0 3", 4).due("of 0 10", 1);
     }
 
     private static void toldTwice() {

@@ -427,6 +427,11 @@ public final class ThoughtEdges extends Due {
             x.due("product " + (10 + i), -81 * (i <= 5 ? i + 1 : 11 - i));
         }
         x.due("product 0", 1).due("product 1", 1);
+        Trial y = terms(new int[] {1, 2, 3}, new int[] {4, 5});
+        int[] both = {4, 13, 22, 15, 0, 0};
+        for (int i = 0; i < both.length; i++) {
+            y.due("product " + (10 + i), both[i]);
+        }
         // Of -9 and of 9, the first and the last x.
         terms(new int[] {-9, 1}, new int[] {9, 1}).due("product 0", 1).due("product 1", 1).due("product 12", 1).due("product 10", -81);
         terms(new int[] {-8, 1}, new int[] {0, 1}).due("product 0", 1).due("product 1", 1);
