@@ -27,6 +27,9 @@ public final class LaneEdges extends Due {
         linesOfTheBook();
         stepsBack();
         looks();
+        eachLook();
+        eachOf();
+        usedAtMost();
         end("the lane's edges");
     }
 
@@ -55,7 +58,8 @@ public final class LaneEdges extends Due {
     }
 
     private static void stateIsAnInt() {
-        sentence("STATE is told: what it was.");
+        sentence("STATE is told: what it was.",
+            "STATE of draws (an int, 0 at first);");
         Trial x = new Trial();
         x.due("state " + MOST, 0).due("look 5", MOST);
         x.due("state " + LEAST, MOST).due("look 5", LEAST);
@@ -244,7 +248,8 @@ public final class LaneEdges extends Due {
     }
 
     private static void frightsRefused() {
-        sentence("to FRIGHTEN one who has HICCUPS,");
+        sentence("to FRIGHTEN one who has HICCUPS,",
+            "Quotients go downwards.");
         for (int who : new int[] {-1, 5, LEAST, MOST}) {
             Trial.rich().leaves("act 1 " + who + " 0", 0);
         }
@@ -287,7 +292,8 @@ public final class LaneEdges extends Due {
     }
 
     private static void otherActs() {
-        sentence("3 who SAYS a name (1, 3: v not asked): true; false if it can't be, or another what.");
+        sentence("3 who SAYS a name (1, 3: v not asked): true; false if it can't be, or another what.",
+            "What 0 PERSON who NAMES v, 1 who is FRIGHTENED, 2 who hands on by a GLASS to v,");
         for (int what : new int[] {-1, 4, LEAST, MOST}) {
             Trial.rich().leaves("act " + what + " 0 1", 0);
         }
@@ -300,7 +306,8 @@ public final class LaneEdges extends Due {
     }
 
     private static void whatIsToldOfPersons() {
-        sentence("NONE - 1 if there is none such, or another what.");
+        sentence("NONE - 1 if there is none such, or another what.",
+            "Of a PERSON what 0 NERVE, 1 HICCUPS, 2 BY, 3 TRIED, 4 NAMED, 5 FOUND, 6 FRIGHTS, 7 hics, 8 stops, 9 passes,");
         Trial x = Trial.lane(3, 4);
         for (int what : new int[] {0, 1, 6, 7, 9, 10, 20, 33}) {
             for (int who : new int[] {-1, 2, LEAST, MOST}) {
@@ -353,7 +360,8 @@ public final class LaneEdges extends Due {
 
     private static void stepsBack() {
         sentence("BACK from a PERSON: how many steps, each from one to who BY is, till BY is NONE, or a step comes to one who was there (it"
-            + " counts, too).");
+            + " counts, too).",
+            "BACK. NONE if there is none such.");
         Trial x = Trial.lane(0, 0, 0, 0);
         for (int who : new int[] {-1, 4, LEAST, MOST}) {
             x.leaves("back " + who, -1);
@@ -373,7 +381,9 @@ public final class LaneEdges extends Due {
     }
 
     private static void looks() {
-        sentence("NONE - 99999 for another what. (STATE as it is.)");
+        sentence("NONE - 99999 for another what. (STATE as it is.)",
+            "What 0 PERSONS, 1 who have HICCUPS (a set), 2 CALM, 3 MINUTE, 4 lines of THE BOOK, 5 STATE, 6 lines of THE LAW, 7 of TALK, 8 of CURES, 9"
+            + " of ROWS, 10 what can be undone.");
         for (int what : new int[] {-1, 11, LEAST, MOST}) {
             Trial.rich().leaves("look " + what, -100000);
         }
@@ -384,5 +394,44 @@ public final class LaneEdges extends Due {
             x.due("look " + what, 16);
         }
         x.due("look 10", 6).due("state " + LEAST, 0).due("look 5", LEAST);
+    }
+
+    private static void eachLook() {
+        sentence("1 who have HICCUPS (a set), 2 CALM, 3 MINUTE, 4 lines of THE BOOK, 5 STATE,", "10 what can be undone.");
+        // No two of them alike, so that none stands for another one.
+        Trial x = Trial.lane(0, 0, 0, 0, 0, 0).fine(0, "stops 0;", 1);
+        x.fine(1, "at 99 person 0 names 1;".repeat(2), 2).fine(2, "at 99 sugar 0;".repeat(7), 7).fine(3, "person 0 says 1;".repeat(10), 10);
+        x.due("state -44", 0).due("minutes 9", 0).due("set 1 5 1", 1).due("minutes 5", 0).due("set 1 5 3", 1).due("set 1 4 1", 1);
+        x.due("act 0 0 5", 1).due("act 1 5 0", 1).due("act 1 5 0", 1);
+        int[] due = {6, 48, 9, 14, 8, -44, 1, 2, 7, 10, 3};
+        for (int what = 0; what < due.length; what++) {
+            x.due("look " + what, due[what]);
+        }
+    }
+
+    private static void eachOf() {
+        sentence("2 BY, 3 TRIED, 4 NAMED, 5 FOUND, 6 FRIGHTS, 7 hics, 8 stops, 9 passes, 10 whom he would say");
+        Trial x = Trial.lane(8, 0, 0, 0, 0, 0, 0).fine(0, "hics 40;stops 200;passes 30;", 3);
+        x.due("act 0 1 0", 1).due("act 0 1 0", 1).due("act 0 1 0", 1).due("act 0 6 0", 1).due("act 0 6 0", 1);
+        x.due("act 0 0 3", 1).due("act 3 3 0", 1).due("of 0 5", 1).due("act 1 0 0", 1).due("act 1 0 0", 1);
+        x.due("act 0 4 0", 1).due("act 0 4 0", 1).due("act 3 0 0", 1).due("act 3 0 0", 1).due("set 1 0 77", 1);
+        int[] due = {8, 77, 4, 6, 7, 1, 2, 40, 200, 30, 3};
+        for (int what = 0; what < due.length; what++) {
+            x.due("of 0 " + what, due[what]);
+        }
+    }
+
+    private static void usedAtMost() {
+        sentence("An object is used for at most 512 calls after it has been made;");
+        Trial x = Trial.lane(0, 0);
+        for (int i = 3; i <= 510; i++) {
+            x.due("act 0 0 1", 1);
+        }
+        // The 511th and the 512th call.
+        x.due("of 1 4", 508).due("look 4", 150);
+        Trial y = Trial.lane(0, 0);
+        for (int i = 3; i <= 511; i += 2) {
+            y.due("act 0 0 1", 1).due("undo", 1);
+        }
     }
 }

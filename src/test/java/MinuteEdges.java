@@ -18,6 +18,7 @@ public final class MinuteEdges extends Due {
         glassesOfNone();
         glassesAtMost();
         sugarAtMost();
+        eachCureAlone();
         whoeverHasNone();
         stopsAboveNone();
         stopsAtMost();
@@ -216,6 +217,42 @@ public final class MinuteEdges extends Due {
         x.due("minutes 2", 0).due("of 0 0", 1).due("of 1 0", 9).due("look 4", 0);
     }
 
+    /** What each line of CURES leaves of the first two: nerve, hiccups, frights. */
+    private static void eachCureAlone() {
+        sentence("2 CURES = {at MINUTE (fright PERSON | breath PERSON N | glass PERSON PERSON | sugar PERSON) ;}");
+        cured("fright 0", new int[] {3, 20, 1}, new int[] {5, 7, 0}, 1);
+        cured("breath 0 4", new int[] {3, 36, 0}, new int[] {5, 7, 0}, 0);
+        cured("glass 0 1", new int[] {3, 0, 0}, new int[] {5, 47, 0}, 1);
+        cured("glass 1 0", new int[] {3, 47, 0}, new int[] {5, 0, 0}, 1);
+        cured("sugar 0", new int[] {4, 40, 0}, new int[] {5, 7, 0}, 0);
+        cured("sugar 1", new int[] {3, 40, 0}, new int[] {6, 7, 0}, 0);
+    }
+
+    /** All stop behind the cures, and the book tells how strong they were just ahead. */
+    private static void cured(String how, int[] first, int[] second, int lines) {
+        Trial x = Trial.lane(3, 5, 0).fine(0, "stops 1000;", 1).fine(2, "at 0 " + how + ";", 1);
+        x.due("act 0 2 0", 1).due("set 1 0 40", 1).due("set 1 1 7", 1).due("minutes 1", 0);
+        int line = 1 + lines;
+        for (int person = 0; person < 2; person++) {
+            int[] due = person == 0 ? first : second;
+            if (due[1] > 0) {
+                x.line(line, 0, 1, person, due[1]);
+                line++;
+            }
+            x.due("of " + person + " 0", due[0]).due("of " + person + " 1", 0).due("of " + person + " 2", -1).due("of " + person + " 3", 0);
+            x.due("of " + person + " 4", 1 - person).due("of " + person + " 5", 0).due("of " + person + " 6", due[2]);
+        }
+        x.due("look 4", line);
+        isNew(x, 2);
+    }
+
+    private static void isNew(Trial x, int person) {
+        int[] due = {0, 0, -1, 0, 0, 0, 0};
+        for (int what = 0; what < due.length; what++) {
+            x.due("of " + person + " " + what, due[what]);
+        }
+    }
+
     private static void whoeverHasNone() {
         sentence("Whoever has none then (at any time): BY is NONE, TRIED empty.");
         for (String how : new String[] {"fright 0", "breath 0 1", "glass 0 2"}) {
@@ -294,7 +331,8 @@ public final class MinuteEdges extends Due {
     }
 
     private static void foundOut() {
-        sentence("Else he says the first name of his order that is not TRIED (and not his own): is it BY: that one is found out: FOUND one more,");
+        sentence("Else he says the first name of his order that is not TRIED (and not his own): is it BY: that one is found out: FOUND one more,",
+            "Is it not: TRIED has it.");
         Trial x = lane(3);
         x.due("act 0 2 0", 1);
         x.due("act 3 0 0", 1).due("of 0 3", 2).due("of 1 5", 0);
@@ -414,7 +452,8 @@ public final class MinuteEdges extends Due {
     }
 
     private static void goesRefused() {
-        sentence("GOES for n (1 .. 60) MINUTES:");
+        sentence("GOES for n (1 .. 60) MINUTES:",
+            "GOES what 0 HICCUPS, 1 FOUND, 2 NAMED, 3 CALM. NONE if one can't be, or another what.");
         Trial x = lane(2);
         x.due("set 1 0 99", 1);
         for (int what = -1; what <= 4; what++) {

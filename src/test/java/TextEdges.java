@@ -23,6 +23,7 @@ public final class TextEdges extends Due {
         anotherText();
         longestText();
         eachTokenStands();
+        keywordsOfEachText();
         lettersTogether();
         allSigns();
         digitsTogether();
@@ -209,7 +210,8 @@ public final class TextEdges extends Due {
     }
 
     private static void cureBounds() {
-        sentence("(breath 1 .. 99; glass: from the first to the second, unlike.)");
+        sentence("(breath 1 .. 99; glass: from the first to the second, unlike.)",
+            "2 CURES = {at MINUTE (fright PERSON | breath PERSON N | glass PERSON PERSON | sugar PERSON) ;}");
         Trial x = Trial.lane(0, 0);
         for (String n : new String[] {"1", "2", "98", "99", "0099"}) {
             x.fine(2, "at 0 breath 0 " + n + ";", 1);
@@ -340,6 +342,70 @@ public final class TextEdges extends Due {
         } else if (place != ANOTHER) {
             x.faulty(k, text, 1, place);
         }
+    }
+
+    private static final String FACTS = "nerve strong tried named found frights near minute";
+    private static final String[] KEYWORDS = ("hics stops passes when or and not " + FACTS
+        + " at person names fright breath glass sugar says").split(" ");
+
+    /** Each keyword at each place: it stands where the text has it, and can't stand anywhere else. */
+    private static void keywordsOfEachText() {
+        sentence("KEYWORDS (those told here for that text) or none;");
+        keywordsAt(0, "", "hics stops passes", "", " 1 ;");
+        keywordsAt(0, "hics ", FACTS, "", " ;");
+        keywordsAt(0, "hics 1 ", "when", "", " 1 = 1 ;");
+        keywordsAt(0, "hics 1 when ", FACTS, "not", " = 1 ;");
+        keywordsAt(0, "hics 1 when ( ", FACTS, "not", " = 1 ) ;");
+        keywordsAt(0, "hics 1 when not ", FACTS, "not", " = 1 ;");
+        keywordsAt(0, "hics 1 when 1 = ", FACTS, "", " ;");
+        keywordsAt(0, "hics 1 when 1 = 1 ", "and or", "", " 1 = 1 ;");
+        keywordsAt(0, "hics 1 when 1 = 1 and ", FACTS, "not", " = 1 ;");
+        keywordsAt(0, "hics 1 + ", FACTS, "", " ;");
+        keywordsAt(0, "hics 1 * ", FACTS, "", " ;");
+        keywordsAt(0, "hics 1 / ", "", "", " ;");
+        keywordsAt(0, "hics 1 ; ", "hics stops passes", "", " 1 ;");
+        keywordsAt(1, "", "at", "", " 0 person 1 names 0 ;");
+        keywordsAt(1, "at ", "", "", " person 1 names 0 ;");
+        keywordsAt(1, "at 0 ", "person", "", " 1 names 0 ;");
+        keywordsAt(1, "at 0 person ", "", "", " names 0 ;");
+        keywordsAt(1, "at 0 person 1 ", "names", "", " 0 ;");
+        keywordsAt(1, "at 0 person 1 names ", "", "", " ;");
+        keywordsAt(1, "at 0 person 1 names 0 ", "", "", " ;");
+        keywordsAt(2, "", "at", "", " 0 sugar 0 ;");
+        keywordsAt(2, "at ", "", "", " sugar 0 ;");
+        keywordsAt(2, "at 0 ", "fright sugar", "breath glass", " 1 ;");
+        keywordsAt(2, "at 0 ", "breath glass", "fright sugar", " 1 2 ;");
+        keywordsAt(2, "at 0 fright ", "", "", " ;");
+        keywordsAt(2, "at 0 sugar ", "", "", " ;");
+        keywordsAt(2, "at 0 glass 0 ", "", "", " ;");
+        keywordsAt(2, "at 0 breath 0 ", "", "", " ;");
+        keywordsAt(3, "", "person", "", " 1 says 0 ;");
+        keywordsAt(3, "person ", "", "", " says 0 ;");
+        keywordsAt(3, "person 1 ", "says", "", " 0 ;");
+        keywordsAt(3, "person 1 says ", "", "", " ;");
+        keywordsAt(3, "person 1 says 0 ", "", "", " ;");
+    }
+
+    /** Some stand there and what is behind them too, of others what is behind them can't; all others can't. */
+    private static void keywordsAt(int k, String ahead, String stand, String standAlone, String behind) {
+        for (String word : KEYWORDS) {
+            Trial x = Trial.lane(0, 0, 0);
+            String text = ahead + word + behind;
+            int lines = text.split(";").length;
+            if (has(stand, word)) {
+                x.fine(k, text, lines);
+            } else {
+                due("text(" + k + ") " + text, x.ask("text " + x.feed(k, text)), -1);
+                due("fault(0) of " + text, x.ask("fault 0"), 1);
+                int further = has(standAlone, word) ? (int) x.ask("fault 1") : ahead.length();
+                due("fault(1) of " + text, x.ask("fault 1"), further);
+                holds("its place is behind the keyword: " + text, !has(standAlone, word) || further > ahead.length() + word.length());
+            }
+        }
+    }
+
+    private static boolean has(String words, String word) {
+        return (" " + words + " ").contains(" " + word + " ");
     }
 
     private static void lettersTogether() {
@@ -613,7 +679,8 @@ public final class TextEdges extends Due {
     }
 
     private static void whatCanStand() {
-        sentence("0 THE LAW = {(hics | stops | passes) E [when B] ;}.");
+        sentence("0 THE LAW = {(hics | stops | passes) E [when B] ;}.",
+            "E = T {(+ | -) T}. T = U {* U | / NUMBER}. U = NUMBER | nerve | strong | tried | named | found | frights | near | minute.");
         Trial x = Trial.lane(0, 0);
         String[] bad = {"hics ;", "hics when 1=1;", "hics 1 1;", "hics 1 nerve;", "hics +1;", "hics -1;", "hics (1);", "hics 1*;", "hics 1**2;",
             "hics 1+(2);", "hics 1=1;", "hics 1 and 1;", "hics 1 when;", "hics 1 when 1;", "hics 1 when 1<;", "hics 1 when <1;",

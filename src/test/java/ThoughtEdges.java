@@ -69,7 +69,8 @@ public final class ThoughtEdges extends Due {
     }
 
     private static void breathsTold() {
-        sentence("A number for BREATH (NONE - 99: none is then): how many; NONE - 99 if one can't be, or there are sixteen.");
+        sentence("A number for BREATH (NONE - 99: none is then): how many; NONE - 99 if one can't be, or there are sixteen.",
+            "BREATH: a told row of up to 16 numbers (-50 .. 50):");
         row("breath ", -100, 16, -100, new int[] {0, 50, -50, 49, -49, -1}, new int[] {51, -51, -99, -101, LEAST, MOST});
         Trial x = new Trial();
         x.due("breath 50", 1).due("breath -50", 2).due("held 0", 50).due("least 0 1", 1).due("breath -100", 0);
@@ -140,7 +141,8 @@ public final class ThoughtEdges extends Due {
     }
 
     private static void leastRefused() {
-        sentence("NONE, too, if there is none such, or another what.");
+        sentence("NONE, too, if there is none such, or another what.",
+            "LEAST of place i what 0 to the left, 1 to the right, 2 how many rows.");
         for (int what = 0; what < 3; what++) {
             new Trial().leaves("least 0 " + what, -1);
             for (int i : new int[] {-1, 2, 16, LEAST, MOST}) {
@@ -180,7 +182,8 @@ public final class ThoughtEdges extends Due {
     }
 
     private static void headsRefused() {
-        sentence("HEADS what 0 that, 1 the least above, 2 how many. NONE, too, if n can't be, or another what.");
+        sentence("HEADS what 0 that, 1 the least above, 2 how many. NONE, too, if n can't be, or another what.",
+            "HEADS: n (0 .. 99999) turned upside down");
         Trial x = new Trial();
         for (int what = 0; what < 3; what++) {
             for (int n : new int[] {-1, -8, 100000, 100001, LEAST, MOST}) {
@@ -195,7 +198,8 @@ public final class ThoughtEdges extends Due {
     }
 
     private static void saidRefused() {
-        sentence("SAID of 1 .. n: how often digit d (0 .. 9). NONE if one can't be.");
+        sentence("SAID of 1 .. n: how often digit d (0 .. 9). NONE if one can't be.",
+            "SAID: 1, 2, .. n (1 .. 9999) said digit by digit: how often digit d;");
         Trial x = new Trial();
         for (int n : new int[] {0, -1, 10000, LEAST, MOST}) {
             x.leaves("said " + n + " 1", -1);
@@ -210,7 +214,8 @@ public final class ThoughtEdges extends Due {
     }
 
     private static void digitsRefused() {
-        sentence("SAID of 1 .. n: the k-th digit. NONE if there is none such.");
+        sentence("SAID of 1 .. n: the k-th digit. NONE if there is none such.",
+            "the k-th digit of it (k from 0).");
         Trial x = new Trial();
         for (int n : new int[] {0, -1, 10000, LEAST, MOST}) {
             x.leaves("digit " + n + " 0", -1);
@@ -273,7 +278,8 @@ public final class ThoughtEdges extends Due {
     }
 
     private static void callsOfNone() {
-        sentence("CALLS what 0 the greatest worth, 1 how many at the fewest, 2 how many minutes, 3 at once. NONE for another what.");
+        sentence("CALLS what 0 the greatest worth, 1 how many at the fewest, 2 how many minutes, 3 at once. NONE for another what.",
+            "how many minutes are in some call;");
         for (int what = 0; what < 4; what++) {
             new Trial().due("calls " + what, 0);
         }
@@ -286,7 +292,8 @@ public final class ThoughtEdges extends Due {
     }
 
     private static void hicsRefused() {
-        sentence("HICS of k in n what 0 .. n - 1 whether beat what has one, 100 the longest way. NONE if one can't be, or another what.");
+        sentence("HICS of k in n what 0 .. n - 1 whether beat what has one, 100 the longest way. NONE if one can't be, or another what.",
+            "HICS: k (0 .. 30) in n (1 .. 30; k at most n) beats: beat i has one if i times k modulo n is below k: whether (1, 0);");
         Trial x = new Trial();
         for (String kn : new String[] {"-1 5", "6 5", "1 0", "0 0", "1 -1", "3 31", "31 31", "30 31", "31 30", LEAST + " 5", MOST + " 5", "5 " + LEAST,
             "5 " + MOST}) {
@@ -316,7 +323,8 @@ public final class ThoughtEdges extends Due {
     }
 
     private static void waysTold() {
-        sentence("A way for GOSSIP (a NONE: none is then): how many; NONE if one can't be, or there are fourteen.");
+        sentence("A way for GOSSIP (a NONE: none is then): how many; NONE if one can't be, or there are fourteen.",
+            "GOSSIP: up to 14 told ways from a to b (0 .. 5, unlike) for c (1 .. 20):");
         String[] bad = {"-2 1 1", "6 1 1", "1 -1 1", "1 6 1", "0 0 1", "5 5 1", "0 1 0", "0 1 -1", "0 1 21", LEAST + " 1 1", MOST + " 1 1", "1 " + LEAST + " 1",
             "1 " + MOST + " 1", "0 1 " + LEAST, "0 1 " + MOST};
         for (String way : bad) {
@@ -353,7 +361,8 @@ public final class ThoughtEdges extends Due {
     }
 
     private static void gossipTwice() {
-        sentence("how few ways (whatever their c) must be taken out, so that none leads from a to b any more (told twice it is two).");
+        sentence("how few ways (whatever their c) must be taken out, so that none leads from a to b any more (told twice it is two).",
+            "the most that can go from a to b, at most c by each, as much coming to each other one as going on;");
         Trial x = new Trial();
         x.due("way 0 1 20", 1).due("gossip 0 1 0", 20).due("gossip 0 1 1", 1);
         x.due("way 0 1 1", 2).due("gossip 0 1 0", 21).due("gossip 0 1 1", 2);
@@ -364,7 +373,8 @@ public final class ThoughtEdges extends Due {
     }
 
     private static void termsTold() {
-        sentence("A number of row 0, 1 for TERMS (v NONE - 9: it is empty then): how many; NONE if one can't be, or there are six.");
+        sentence("A number of row 0, 1 for TERMS (v NONE - 9: it is empty then): how many; NONE if one can't be, or there are six.",
+            "TERMS: two told rows of up to 6 numbers (-9 .. 9; the first times 1, the next times x, ..):");
         row("term 0 ", -10, 6, -1, new int[] {0, 9, -9, 8, -8, 1}, new int[] {10, -11, -12, LEAST, MOST});
         row("term 1 ", -10, 6, -1, new int[] {0, 9, -9, 8, -8, 1}, new int[] {10, -11, -12, LEAST, MOST});
         for (int which : new int[] {-1, 2, LEAST, MOST}) {
@@ -403,7 +413,8 @@ public final class ThoughtEdges extends Due {
     }
 
     private static void termsRefused() {
-        sentence("NONE - 9999999 if one can't be.");
+        sentence("NONE - 9999999 if one can't be.",
+            "of row 0, 1 what it comes to at x (-9 .. 9);");
         Trial x = terms(new int[] {9, 9, 9, 9, 9, 9}, new int[] {-9, -9, -9, -9, -9, -9});
         for (int which = 0; which < 2; which++) {
             for (int at : new int[] {-10, 10, LEAST, MOST}) {
@@ -418,7 +429,8 @@ public final class ThoughtEdges extends Due {
     }
 
     private static void productsRefused() {
-        sentence("TERMS: of how many x row 0, 1 is 0; which 10 + i: what stands at x to the i of both. NONE - 9999999 if there is none such.");
+        sentence("TERMS: of how many x row 0, 1 is 0; which 10 + i: what stands at x to the i of both. NONE - 9999999 if there is none such.",
+            "of how many x -9 .. 9 it is 0; what stands at x to the i (i 0 .. 10) of both multiplied.");
         Trial x = terms(new int[] {9, 9, 9, 9, 9, 9}, new int[] {-9, -9, -9, -9, -9, -9});
         for (int which : new int[] {-1, 2, 9, 21, LEAST, MOST}) {
             x.leaves("product " + which, -10000000);
@@ -439,7 +451,8 @@ public final class ThoughtEdges extends Due {
     }
 
     private static void tonguesRefused() {
-        sentence("TONGUES what 0 the sum, 1 whether, 2 the least base (b not asked). NONE, too, if one can't be, or another what.");
+        sentence("TONGUES what 0 the sum, 1 whether, 2 the least base (b not asked). NONE, too, if one can't be, or another what.",
+            "TONGUES: n (1 .. 9999) in base b (2 .. 16): the sum of its digits;");
         Trial x = new Trial();
         for (int what = 0; what < 3; what++) {
             for (int n : new int[] {0, -1, 10000, LEAST, MOST}) {
@@ -474,7 +487,8 @@ public final class ThoughtEdges extends Due {
     }
 
     private static void squaresRefused() {
-        sentence("SQUARES what 0 how few, 1 in how many ways. NONE if n can't be, or another what.");
+        sentence("SQUARES what 0 how few, 1 in how many ways. NONE if n can't be, or another what.",
+            "SQUARES: n (1 .. 9999): of how few squares (1, 4, 9, ..) it is the sum;");
         Trial x = new Trial();
         for (int n : new int[] {0, -1, 10000, LEAST, MOST}) {
             x.leaves("squares " + n + " 0", -1);
@@ -497,7 +511,8 @@ public final class ThoughtEdges extends Due {
     }
 
     private static void kinTold() {
-        sentence("A number for TREE (NONE: it is empty then): how many; NONE if one can't be, or there are six.");
+        sentence("A number for TREE (NONE: it is empty then): how many; NONE if one can't be, or there are six.",
+            "TREE: a told row of up to 6 numbers 0 .. 7;");
         row("kin ", -1, 6, -1, new int[] {0, 7, 6, 1}, new int[] {8, -2, LEAST, MOST});
     }
 
@@ -510,7 +525,8 @@ public final class ThoughtEdges extends Due {
     }
 
     private static void treeRefused() {
-        sentence("TREE what 0 how many are joined to v (u not asked), 1 how far from v to u. NONE, too, if one can't be, or another what.");
+        sentence("TREE what 0 how many are joined to v (u not asked), 1 how far from v to u. NONE, too, if one can't be, or another what.",
+            "how many are joined to v; how many joinings from v to u.");
         Trial x = kin(1, 2);
         // 0 - 1 - 2 - 3.
         x.due("tree 0 0 0", 1).due("tree 1 0 0", 2).due("tree 2 0 0", 2).due("tree 3 0 0", 1);
@@ -573,7 +589,8 @@ public final class ThoughtEdges extends Due {
     }
 
     private static void stairRefused() {
-        sentence("STAIR what 0 in how many ways (modulo 1000000007), 1 the fewest. NONE, too, if one can't be, or another what.");
+        sentence("STAIR what 0 in how many ways (modulo 1000000007), 1 the fewest. NONE, too, if one can't be, or another what.",
+            "STAIR of n (0 .. 40) steps from 0, by 1 .. k (1 .. 6) at a going,");
         Trial x = Trial.rich();
         for (int what = 0; what < 2; what++) {
             for (String nk : new String[] {"-1 1", "41 1", LEAST + " 1", MOST + " 1", "5 0", "5 -1", "5 7", "5 " + LEAST, "5 " + MOST}) {
@@ -628,7 +645,8 @@ public final class ThoughtEdges extends Due {
     }
 
     private static void heapsTold() {
-        sentence("A heap for GAME (NONE: none is then): how many; NONE if one can't be, or there are four.");
+        sentence("A heap for GAME (NONE: none is then): how many; NONE if one can't be, or there are four.",
+            "GAME: up to 4 told heaps (0 .. 15):");
         row("heap ", -1, 4, -1, new int[] {0, 15, 1, 14}, new int[] {16, -2, LEAST, MOST});
         new Trial().due("heap 15", 1).due("game", 14).due("heap -1", 0).due("game", -1).due("heap 0", 1).due("game", -1).due("heap 15", 2).due("game", 114);
     }
