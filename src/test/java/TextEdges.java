@@ -41,6 +41,7 @@ public final class TextEdges extends Due {
         whatCanStand();
         firstLineThatIsSo();
         andBeforeOr();
+        eachMixOfClaims();
         wordsOfTheLaw();
         nearOfNone();
         end("the texts' edges");
@@ -174,6 +175,7 @@ public final class TextEdges extends Due {
         }
         // The 16th line is heard as well as the first.
         x.fine(0, "stops 1;".repeat(15) + "hics 8;", 16).due("of 0 7", 8);
+        x.fine(0, "hics 1+1 when 1=2;".repeat(15) + "passes 9;", 16).due("of 0 9", 9).due("of 0 7", 20).due("of 0 8", 50);
         x.fine(3, "person0says1;".repeat(15) + "person1says0;", 16).due("of 1 20", 0);
         Trial eight = Trial.lane(0, 0, 0, 0, 0, 0, 0, 0);
         eight.fine(3, "person0says1;".repeat(15) + "person 7 says 6 5 4 3 2 1;", 16);
@@ -736,6 +738,49 @@ public final class TextEdges extends Due {
         isSo(x, "2+3*4=14", true);
         isSo(x, "20/3*3=18", true);
         isSo(x, "2*7/3=4", true);
+    }
+
+    /** X, Y and Z so or not so, in each mix. */
+    private static void eachMixOfClaims() {
+        sentence("B = A {or A}. A = C {and C}. C = E (< | = | >) E | not C | ( B ).");
+        String[] forms = {"X and Y", "X or Y", "not X", "not not X and Y", "(X or Y) and Z", "Z and (X or Y)", "X or Y and Z", "X and Y or Z", "(X and Y) or Z",
+            "not X and Y", "not X or Y", "X and not Y", "X or not Y", "not (X or Y)", "not (X and Y)", "not (not X or not Y)", "X and Y and Z", "X or Y or Z",
+            "(X and (Y or Z))", "not (X or Y) or Z", "not (X and Y) and Z", "(X or Y) and (Y or Z)", "(not X) and (not Y or Z)"};
+        for (String form : forms) {
+            Trial x = Trial.lane(0, 0);
+            for (int mix = 0; mix < 8; mix++) {
+                boolean[] so = {(mix & 1) != 0, (mix & 2) != 0, (mix & 4) != 0};
+                String claim = form.replace("X", so[0] ? "1=1" : "1=2").replace("Y", so[1] ? "1<2" : "2<1").replace("Z", so[2] ? "2>1" : "1>2");
+                isSo(x, claim, isSo(form, so));
+            }
+        }
+    }
+
+    /** What such a form is: the last "or" outside of all brackets parts it, then the last "and", then a not. */
+    private static boolean isSo(String form, boolean[] so) {
+        String f = form.trim();
+        int or = outside(f, " or ");
+        if (or >= 0) {
+            return isSo(f.substring(0, or), so) | isSo(f.substring(or + 4), so);
+        }
+        int and = outside(f, " and ");
+        if (and >= 0) {
+            return isSo(f.substring(0, and), so) & isSo(f.substring(and + 5), so);
+        }
+        if (f.startsWith("not ")) {
+            return !isSo(f.substring(4), so);
+        }
+        return f.startsWith("(") ? isSo(f.substring(1, f.length() - 1), so) : so[f.charAt(0) - 'X'];
+    }
+
+    private static int outside(String form, String word) {
+        int open = 0;
+        int last = -1;
+        for (int i = 0; i < form.length(); i++) {
+            open += form.charAt(i) == '(' ? 1 : form.charAt(i) == ')' ? -1 : 0;
+            last = open == 0 && form.startsWith(word, i) ? i : last;
+        }
+        return last;
     }
 
     private static void wordsOfTheLaw() {

@@ -225,6 +225,9 @@ public final class ThoughtEdges extends Due {
         }
         x.due("digit 1 0", 1).due("digit 1 1", -1).due("digit 9 8", 9).due("digit 9 9", -1);
         x.due("digit 10 9", 1).due("digit 10 10", 0).due("digit 10 11", -1);
+        // 21 has its digits at 31 and 32, 145 at 324 to 326, 1234 at 3825 to 3828.
+        x.due("digit 99 31", 2).due("digit 99 32", 1).due("digit 9999 31", 2).due("digit 145 324", 1).due("digit 145 325", 4).due("digit 145 326", 5);
+        x.due("digit 1234 3825", 1).due("digit 9999 3826", 2).due("digit 1234 3827", 3).due("digit 1234 3828", 4).due("digit 1234 3829", -1);
         x.due("digit 99 188", 9).due("digit 99 189", -1).due("digit 100 189", 1).due("digit 100 191", 0).due("digit 100 192", -1);
         x.due("digit 999 2888", 9).due("digit 999 2889", -1).due("digit 1000 2889", 1).due("digit 1000 2892", 0).due("digit 1000 2893", -1);
         x.due("digit 9999 38888", 9).due("digit 9999 38885", 9).due("digit 9999 38884", 8).due("digit 9998 38884", 8).due("digit 9998 38885", -1);
