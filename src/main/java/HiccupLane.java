@@ -537,7 +537,7 @@ public final class HiccupLane {
 
     /** A row of numbers told one by one, up to a length that stands from the beginning. */
     private static final class Row {
-        final int[] items;
+        private final int[] items;
         int count;
 
         Row(int most) {
@@ -555,6 +555,10 @@ public final class HiccupLane {
                 count++;
             }
             return count;
+        }
+
+        int at(int place) {
+            return place >= 0 && place < count ? items[place] : 0;
         }
 
         int clear() {
@@ -644,13 +648,13 @@ public final class HiccupLane {
             if (row.count == 0) {
                 return 0;
             }
-            int best = row.items[0];
+            int best = row.at(0);
             for (int from = 0; from < row.count; from++) {
                 int sum = 0;
-                int least = row.items[from];
+                int least = row.at(from);
                 for (int till = from; till < row.count; till++) {
-                    sum += row.items[till];
-                    least = Math.min(least, row.items[till]);
+                    sum += row.at(till);
+                    least = Math.min(least, row.at(till));
                     best = Math.max(best, sum);
                     if (leavingOne && till > from) {
                         best = Math.max(best, sum - least);
@@ -662,7 +666,7 @@ public final class HiccupLane {
 
         int lessToLeft(Row row, int place, boolean orAlike) {
             for (int i = place - 1; i >= 0; i--) {
-                if (row.items[i] < row.items[place] || orAlike && row.items[i] == row.items[place]) {
+                if (row.at(i) < row.at(place) || orAlike && row.at(i) == row.at(place)) {
                     return i;
                 }
             }
@@ -672,7 +676,7 @@ public final class HiccupLane {
         /** Behind the row's end, if none is less. */
         int lessToRight(Row row, int place) {
             for (int i = place + 1; i < row.count; i++) {
-                if (row.items[i] < row.items[place]) {
+                if (row.at(i) < row.at(place)) {
                     return i;
                 }
             }
@@ -693,9 +697,9 @@ public final class HiccupLane {
             for (int till = 1; till < bestTill.length; till++) {
                 int best = bestTill[till - 1];
                 for (int i = 0; i < rows.callTo.count; i++) {
-                    if (rows.callTo.items[i] == till) {
-                        int with = bestTill[rows.callFrom.items[i]] + rows.callWorth.items[i] * WORTH_UNIT - 1;
-                        best = Math.max(best, with);
+                    int from = rows.callFrom.at(i);
+                    if (rows.callTo.at(i) == till && from >= 0 && from < till) {
+                        best = Math.max(best, bestTill[from] + rows.callWorth.at(i) * WORTH_UNIT - 1);
                     }
                 }
                 bestTill[till] = best;
@@ -724,7 +728,7 @@ public final class HiccupLane {
         private int callsIn(Rows rows, int minute) {
             int calls = 0;
             for (int i = 0; i < rows.callFrom.count; i++) {
-                if (rows.callFrom.items[i] <= minute && minute < rows.callTo.items[i]) {
+                if (rows.callFrom.at(i) <= minute && minute < rows.callTo.at(i)) {
                     calls++;
                 }
             }
@@ -745,9 +749,9 @@ public final class HiccupLane {
         private int cut(Rows rows, int side, boolean countWays) {
             int sum = 0;
             for (int i = 0; i < rows.wayFrom.count; i++) {
-                boolean leaves = (side >> rows.wayFrom.items[i] & 1) == 1 && (side >> rows.wayTo.items[i] & 1) == 0;
+                boolean leaves = (side >> rows.wayFrom.at(i) & 1) == 1 && (side >> rows.wayTo.at(i) & 1) == 0;
                 if (leaves) {
-                    sum += countWays ? 1 : rows.wayMost.items[i];
+                    sum += countWays ? 1 : rows.wayMost.at(i);
                 }
             }
             return sum;
@@ -756,7 +760,7 @@ public final class HiccupLane {
         int valueAt(Row row, int x) {
             int value = 0;
             for (int i = row.count - 1; i >= 0; i--) {
-                value = value * x + row.items[i];
+                value = value * x + row.at(i);
             }
             return value;
         }
@@ -776,7 +780,7 @@ public final class HiccupLane {
             for (int i = 0; i < first.count; i++) {
                 int j = power - i;
                 if (j >= 0 && j < second.count) {
-                    sum += first.items[i] * second.items[j];
+                    sum += first.at(i) * second.at(j);
                 }
             }
             return sum;
@@ -794,7 +798,7 @@ public final class HiccupLane {
                 if (leaf == NONE) {
                     return false;
                 }
-                parent[leaf] = row.items[at];
+                parent[leaf] = row.at(at);
                 left &= ~(1 << leaf);
             }
             int low = leastFree(row, row.count, left);
@@ -802,17 +806,17 @@ public final class HiccupLane {
                 return false;
             }
             int high = leastFree(row, row.count, left & ~(1 << low));
-            parent[low] = high;
             if (high == NONE) {
                 return false;
             }
+            parent[low] = high;
             parent[high] = NONE;
             return true;
         }
 
         private static boolean areBelow(Row row, int all) {
             for (int i = 0; i < row.count; i++) {
-                if (row.items[i] >= all) {
+                if (row.at(i) >= all) {
                     return false;
                 }
             }
@@ -822,7 +826,7 @@ public final class HiccupLane {
         private static int leastFree(Row row, int from, int left) {
             int free = left;
             for (int i = from; i < row.count; i++) {
-                free &= ~(1 << row.items[i]);
+                free &= ~(1 << row.at(i));
             }
             for (int i = 0; i < MOST_KIN; i++) {
                 if ((free >> i & 1) == 1) {
@@ -845,9 +849,9 @@ public final class HiccupLane {
         /** The ways up from both meet first where the way between them turns. */
         int joiningsBetween(int v, int u) {
             int up = v;
-            for (int i = 0; i < MOST_KIN && up != NONE; i++) {
+            for (int i = 0; i < MOST_KIN && isKin(up); i++) {
                 int other = u;
-                for (int j = 0; j < MOST_KIN && other != NONE; j++) {
+                for (int j = 0; j < MOST_KIN && isKin(other); j++) {
                     if (other == up) {
                         return i + j;
                     }
@@ -856,6 +860,10 @@ public final class HiccupLane {
                 up = parent[up];
             }
             return NONE;
+        }
+
+        private static boolean isKin(int v) {
+            return v >= 0 && v < MOST_KIN;
         }
 
         int waysUp(Row bad, int n, int k) {
@@ -892,14 +900,17 @@ public final class HiccupLane {
                 isBad[i] = false;
             }
             for (int i = 0; i < bad.count; i++) {
-                isBad[bad.items[i]] = true;
+                int place = bad.at(i);
+                if (place >= 0 && place <= MOST_STAIR) {
+                    isBad[place] = true;
+                }
             }
         }
 
         int winningMove(Row heaps) {
             for (int i = 0; i < heaps.count; i++) {
-                for (int take = 1; take <= heaps.items[i]; take++) {
-                    if (isLost(heaps, i, heaps.items[i] - take)) {
+                for (int take = 1; take <= heaps.at(i); take++) {
+                    if (isLost(heaps, i, heaps.at(i) - take)) {
                         return 100 * i + take;
                     }
                 }
@@ -912,7 +923,7 @@ public final class HiccupLane {
             int together = 0;
             boolean isAnyAboveOne = false;
             for (int j = 0; j < heaps.count; j++) {
-                int size = j == i ? left : heaps.items[j];
+                int size = j == i ? left : heaps.at(j);
                 together ^= size;
                 isAnyAboveOne = isAnyAboveOne || size > 1;
             }
@@ -1223,7 +1234,7 @@ public final class HiccupLane {
             int steps = 0;
             int at = person;
             int wasThere = 1 << person;
-            for (int i = 0; i < MOST_PERSONS && by[at] != NONE; i++) {
+            for (int i = 0; i < MOST_PERSONS && has(by[at]); i++) {
                 at = by[at];
                 steps++;
                 if ((wasThere >> at & 1) == 1) {
@@ -1372,7 +1383,7 @@ public final class HiccupLane {
 
         private int value(int start, int end, Lane lane, int person) {
             int depth = 0;
-            for (int i = start; i < end; i++) {
+            for (int i = start; i < end && i < size; i++) {
                 int sign = code[i];
                 if (sign < ADD) {
                     if (depth < STACK) {
@@ -1543,7 +1554,7 @@ public final class HiccupLane {
             if (line != NONE) {
                 for (int i = 0; i < namesTold[line]; i++) {
                     int name = names[line * MOST_NAMES + i];
-                    if ((in >> name & 1) == 0 && length < MOST_PERSONS) {
+                    if (name < persons && (in >> name & 1) == 0 && length < MOST_PERSONS) {
                         order[length] = name;
                         length++;
                         in |= 1 << name;
@@ -2121,12 +2132,12 @@ public final class HiccupLane {
         /** How often one was found out in it. */
         int passMinute(Lane at) {
             for (int i = 0; i < talk.count; i++) {
-                if (talk.minute[i] == at.minute) {
+                if (talk.minute[i] == at.minute && at.has(talk.first[i]) && at.has(talk.second[i])) {
                     nameOne(at, talk.first[i], talk.second[i]);
                 }
             }
             for (int i = 0; i < cures.count; i++) {
-                if (cures.minute[i] == at.minute) {
+                if (cures.minute[i] == at.minute && at.has(cures.first[i])) {
                     cure(at, cures.kind[i], cures.first[i], cures.second[i]);
                 }
             }
@@ -2174,7 +2185,7 @@ public final class HiccupLane {
         }
 
         void handOn(Lane at, int who, int whom) {
-            if (at.hiccups[who] > 0) {
+            if (at.hiccups[who] > 0 && at.has(whom)) {
                 at.hiccup(whom, at.hiccups[whom] + at.hiccups[who]);
                 at.blame(whom, who);
                 at.hiccup(who, 0);
